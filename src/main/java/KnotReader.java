@@ -868,8 +868,8 @@ public final class KnotReader {
 
         int onlyNibbled(int index) {
             int only = NONE;
-            int end = end(index);
-            for (int cord = start(index); cord < end; cord++) {
+            int end = starts.get(index + 1);
+            for (int cord = starts.get(index); cord < end; cord++) {
                 if (nibbled.get(cord) > 0) {
                     if (only != NONE) {
                         return NONE;
@@ -1275,7 +1275,11 @@ public final class KnotReader {
         }
 
         int readTopic(Topics topics) {
-            int topic = topics.find(readName());
+            if (hasFailed()) {
+                return 0;
+            }
+            next();
+            int topic = topics.find(name());
             if (topic == NONE) {
                 fail(UNKNOWN_NAME);
             }
@@ -1283,7 +1287,11 @@ public final class KnotReader {
         }
 
         void readNewTopic(Topics topics) {
-            int name = readName();
+            if (hasFailed()) {
+                return;
+            }
+            next();
+            int name = name();
             if (topics.find(name) != NONE) {
                 fail(DUPLICATE_NAME);
             }
@@ -1292,12 +1300,8 @@ public final class KnotReader {
             }
         }
 
-        /** A name as Topics keeps it, or 0, which is none. */
-        private int readName() {
-            if (hasFailed()) {
-                return 0;
-            }
-            next();
+        /** The current token as Topics keeps a name, or 0 if it can be none. */
+        private int name() {
             if (kind != WORD || end - start > MAX_LETTERS) {
                 fail(SYNTAX);
                 return 0;
@@ -1309,21 +1313,17 @@ public final class KnotReader {
             return name;
         }
 
-        /** Reads the nibbled places that a statement may name, and its semicolon. */
-        int readNibbledPart() {
+        /** Takes a word that may be missing; another token is left to be read. */
+        boolean takesWord(String word) {
             if (hasFailed()) {
-                return 0;
+                return false;
             }
             next();
-            if (isWord("nibbled")) {
-                int places = readNumber(1, PLACES);
-                readSemicolon();
-                return places;
+            if (isWord(word)) {
+                return true;
             }
-            if (kind != SEMICOLON) {
-                fail(SYNTAX);
-            }
-            return 0;
+            end = start;
+            return false;
         }
 
         void readSemicolon() {
@@ -1376,14 +1376,15 @@ public final class KnotReader {
 
         private static void readCord(Text text, Topics topics, Cords cords) {
             checkFirstWord(text, cords);
-            int depth = readDepth(text);
+            int depth = text.isWord("top") ? 0 : text.isWord("pendant") ? 1 : text.readNumber(2, MAX_DEPTH);
             int at = placeFor(cords, depth);
             if (at == NONE) {
                 text.fail(NO_PLACE);
             }
             int topic = text.readTopic(topics);
             int value = text.readNumber(0, MAX_VALUE);
-            int places = text.readNibbledPart();
+            int places = text.takesWord("nibbled") ? text.readNumber(1, PLACES) : 0;
+            text.readSemicolon();
             if (!text.hasFailed()) {
                 cords.insert(at, cords.clusters - 1, depth, topic, value);
                 cords.loseKnots(at, places);
@@ -1401,13 +1402,6 @@ public final class KnotReader {
             if (cords.size >= MAX_CORDS) {
                 text.fail(TOO_MANY);
             }
-        }
-
-        private static int readDepth(Text text) {
-            if (text.isWord("top")) {
-                return 0;
-            }
-            return text.isWord("pendant") ? 1 : text.readNumber(2, MAX_DEPTH);
         }
 
         /** The index of a new cord of the latest cluster, or NONE if there is no cord to hold it. */
@@ -1437,11 +1431,17 @@ public final class KnotReader {
             size = 0;
             // One more than there may be, so that the error of the statement too many is found.
             for (int i = 0; i <= MAX_STATEMENTS && text.nextStatement(); i++) {
-                readStatement(text, topics);
+                int kind = readKind(text);
+                kinds.set(i, kind);
+                firsts.set(i, readFirst(text, kind));
+                seconds.set(i, readSecond(text, topics, kind));
+                thirds.set(i, readThird(text, kind));
+                text.readSemicolon();
+                size = i + 1;
             }
         }
 
-        private void readStatement(Text text, Topics topics) {
+        private int readKind(Text text) {
             int kind = kindOf(text);
             if (kind == NO_CHANGE) {
                 text.fail(SYNTAX);
@@ -1449,12 +1449,7 @@ public final class KnotReader {
             if (size >= MAX_STATEMENTS) {
                 text.fail(TOO_MANY);
             }
-            kinds.set(size, kind);
-            firsts.set(size, readFirst(text, kind));
-            seconds.set(size, readSecond(text, topics, kind));
-            thirds.set(size, readThird(text, kind));
-            text.readSemicolon();
-            size++;
+            return kind;
         }
 
         private static int kindOf(Text text) {
