@@ -708,7 +708,8 @@ public final class KnotReader {
     private static final class Cords {
         private int clusters = 0;
         private int size = 0;
-        // The first index of each cluster, and behind the last one the number of cords.
+        // The first index of each cluster (always 0 for the first), and behind the last one the number
+        // of cords.
         private final Row starts = new Row(MAX_CLUSTERS + 1);
         private final Row depth = new Row(MAX_CORDS);
         private final Row topic = new Row(MAX_CORDS);
@@ -719,7 +720,6 @@ public final class KnotReader {
         void clear() {
             clusters = 0;
             size = 0;
-            starts.set(0, 0);
         }
 
         void copyFrom(Cords other) {

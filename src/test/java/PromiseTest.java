@@ -19,6 +19,7 @@ public final class PromiseTest {
         scriptErrors();
         reported();
         counts();
+        leftovers();
         topicBytes();
         cordQueries();
         totals();
@@ -282,6 +283,29 @@ public final class PromiseTest {
         C.due("11 none", k.knotCount(), 0);
         C.due("12 none", k.nibbledCount(), 0);
         C.due("13 none", k.matchingCount(), 0);
+    }
+
+    /** What was there once must not be counted any more. */
+    private static void leftovers() {
+        KnotReader k = Checks.with("topic a;topic b;cluster;top a 1;pendant a 1;cluster;top b 2;pendant b 1;sub 2 b 1;cluster;top b 0;pendant b 999 nibbled 1;");
+        C.due("13 two", k.matchingCount(), 2);
+        k.cut(6);
+        k.cut(5);
+        C.due("11 after cuts", k.knotCount(), 6);
+        C.due("12 after cuts", k.nibbledCount(), 0);
+        C.due("36 after cuts", k.cordsOfTopic(1), 3);
+        C.due("37 after cuts", k.sumOfTopic(1), 2);
+        C.due("38 after cuts", k.mostUsedTopic(), 1);
+        C.due("39 after cuts", k.greatestCord(), 2);
+        C.due("40 after cuts", k.averageValue(), 1.2);
+        C.due("41 after cuts", k.nibbledPart(), 0.0f);
+        C.due("42 after cuts", k.isConsistent(), true);
+        Checks.load(k, "topic c;cluster;top c 1;pendant c 1;");
+        C.due("13 after loading", k.matchingCount(), 1);
+        C.due("42 after loading", k.isConsistent(), true);
+        C.due("43 after loading", k.addCluster(), 1);
+        C.due("28 after loading", k.cordsIn(1), 0);
+        C.thrown("14 after loading", () -> k.topicByte(1, 0), INDEX);
     }
 
     private static void topicBytes() {
