@@ -81,8 +81,13 @@ public final class LanguageTest {
             }
         }
         C.due("fields of " + type, fields.size() <= 20, true);
+        Set<String> face = new TreeSet<>();
+        for (Method method : KnotReader.class.getMethods()) {
+            face.add(method.getName());
+        }
         for (Method method : type.getDeclaredMethods()) {
             C.due("parameters of " + method, method.getParameterCount() <= 7, true);
+            C.due(method + " has a name of the face", !Modifier.isPublic(method.getModifiers()) && face.contains(method.getName()), false);
         }
     }
 }
