@@ -303,6 +303,11 @@ public final class QueriesTest {
         S.due(-1, () -> Checks.run(new KnotReader(), "dye 0 maize;".repeat(31)));
         S.due(-1, () -> Checks.run(new KnotReader(), "cut 0;cut 0"));
         S.due(29, () -> Checks.run(new KnotReader(), "dye 0 maize;".repeat(29) + "cut 8;"));
+        // nothing of a script is left for the next one
+        KnotReader r = new KnotReader();
+        for (int many : new int[] {30, 0, 1, 31, 30, 31, 0, 31, 2, 0}) {
+            S.due(many > 30 ? -1 : many, () -> Checks.run(r, "dye 0 wool;".repeat(many)));
+        }
     }
 
     private static void errors() {
